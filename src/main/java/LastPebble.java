@@ -192,7 +192,7 @@ public final class LastPebble {
             return refuse(NO_SUCH_NUMBER);
         }
         reader.begin(n);
-        if (!beachText.takeAll(spareBeach)) {
+        if (!beachText.takeBeach(spareBeach)) {
             return refuse(FAULTY);
         }
         Beach old = beach;
@@ -207,7 +207,7 @@ public final class LastPebble {
             return refuse(NO_SUCH_NUMBER);
         }
         reader.begin(n);
-        if (!daysText.takeAll(beach, spareDays)) {
+        if (!daysText.takeDays(beach, spareDays)) {
             return refuse(FAULTY);
         }
         Days old = days;
@@ -747,7 +747,7 @@ public final class LastPebble {
         for (int i = 0; i < many; i++) {
             spareBeach.copyFrom(beach);
             life.liveThrough(spareBeach, days, seed + i);
-            kept += spareBeach.finders[finder].kept;
+            kept += spareBeach.keptBy(finder);
         }
         tellFraction(kept, many);
         return grant();
@@ -826,7 +826,7 @@ public final class LastPebble {
         int clock;
         int kept;
 
-        void copyFrom(Finder other) {
+        void becomeLike(Finder other) {
             name = other.name;
             cell = other.cell;
             pace = other.pace;
@@ -850,7 +850,7 @@ public final class LastPebble {
         boolean there;
         int count;
 
-        void copyFrom(Find other) {
+        void becomeLike(Find other) {
             name = other.name;
             cell = other.cell;
             worth = other.worth;
@@ -993,10 +993,10 @@ public final class LastPebble {
             findCount = other.findCount;
             outcome = other.outcome;
             for (int i = 0; i < finderCount; i++) {
-                finders[i].copyFrom(other.finders[i]);
+                finders[i].becomeLike(other.finders[i]);
             }
             for (int i = 0; i < findCount; i++) {
-                finds[i].copyFrom(other.finds[i]);
+                finds[i].becomeLike(other.finds[i]);
             }
         }
 
@@ -1231,10 +1231,28 @@ public final class LastPebble {
             }
             switch (duel) {
                 case NOBODYS: return 0;
-                case FIRST: return Integer.lowestOneBit(set);
-                case LAST: return Integer.highestOneBit(set);
+                case FIRST: return firstOf(set);
+                case LAST: return lastOf(set);
                 default: return set;
             }
+        }
+
+        private static int firstOf(int set) {
+            for (int i = 0; i < FINDERS; i++) {
+                if ((set >> i & 1) == 1) {
+                    return 1 << i;
+                }
+            }
+            return 0;
+        }
+
+        private static int lastOf(int set) {
+            for (int i = FINDERS - 1; i >= 0; i--) {
+                if ((set >> i & 1) == 1) {
+                    return 1 << i;
+                }
+            }
+            return 0;
         }
 
         int shareOf(int finder, Find one) {
@@ -1271,6 +1289,11 @@ public final class LastPebble {
                 }
             }
             return ahead;
+        }
+
+        int keptBy(int finder) {
+            Finder who = finderAt(finder);
+            return who == null ? 0 : who.kept;
         }
 
         int strewnBy(int finder) {
@@ -1709,11 +1732,6 @@ public final class LastPebble {
             return false;
         }
 
-        private int failing(int why) {
-            fail(why);
-            return NONE;
-        }
-
         private void advance() {
             if (at < tokens - 1) {
                 at++;
@@ -1748,7 +1766,8 @@ public final class LastPebble {
         /** One of < > =, NONE if it is a fault. */
         int takeCompares() {
             if (kinds[at] != SIGN || values[at] == ';') {
-                return failing(MISPLACED);
+                fail(MISPLACED);
+                return NONE;
             }
             int sign = (int) values[at];
             advance();
@@ -1758,11 +1777,13 @@ public final class LastPebble {
         /** The number, NONE if it is a fault. */
         int takeNumber(int least, int most) {
             if (kinds[at] != NUMBER) {
-                return failing(MISPLACED);
+                fail(MISPLACED);
+                return NONE;
             }
             int number = (int) values[at];
             if (number < least || number > most) {
-                return failing(BAD_NUMBER);
+                fail(BAD_NUMBER);
+                return NONE;
             }
             advance();
             return number;
@@ -1775,11 +1796,13 @@ public final class LastPebble {
         /** The name packed, NONE if it is a fault. */
         long takeNewName(Beach beach) {
             if (kinds[at] != NAME) {
-                return failing(MISPLACED);
+                fail(MISPLACED);
+                return NONE;
             }
             long name = values[at];
             if (beach.finderNamed(name) != NONE || beach.findNamed(name) != NONE) {
-                return failing(BAD_NAME);
+                fail(BAD_NAME);
+                return NONE;
             }
             advance();
             return name;
@@ -1795,10 +1818,12 @@ public final class LastPebble {
 
         private int takeKnown(int which) {
             if (kinds[at] != NAME) {
-                return failing(MISPLACED);
+                fail(MISPLACED);
+                return NONE;
             }
             if (which == NONE) {
-                return failing(BAD_NAME);
+                fail(BAD_NAME);
+                return NONE;
             }
             advance();
             return which;
@@ -1827,7 +1852,7 @@ public final class LastPebble {
         }
 
         /** False if the text has a fault; then the goal is of no use. */
-        boolean takeAll(Beach goal) {
+        boolean takeBeach(Beach goal) {
             beach = goal;
             beach.clear();
             duelTold = false;
@@ -1987,7 +2012,7 @@ public final class LastPebble {
             System.arraycopy(other.partners, 0, partners, 0, length);
         }
 
-        void add(int word, int a, int b, int c) {
+        void append(int word, int a, int b, int c) {
             if (length >= LONGEST) {
                 return;
             }
@@ -1999,12 +2024,12 @@ public final class LastPebble {
             length++;
         }
 
-        void addEnd(int beginning) {
+        void appendEnd(int beginning) {
             if (length >= LONGEST || beginning < 0 || beginning >= length) {
                 return;
             }
             int end = length;
-            add(Word.END, 0, 0, 0);
+            append(Word.END, 0, 0, 0);
             partners[end] = beginning;
             partners[beginning] = end;
         }
@@ -2027,14 +2052,14 @@ public final class LastPebble {
         }
 
         /** False if the text has a fault; then the goal is of no use. */
-        boolean takeAll(Beach there, Days goal) {
+        boolean takeDays(Beach there, Days goal) {
             beach = there;
             days = goal;
             days.clear();
             depth = 0;
             boolean well = true;
             for (int i = 0; i < DAYS_BYTES && well && !reader.isOver(); i++) {
-                well = reader.wordHere() == Word.END ? takeEnd() : takeStep();
+                well = (reader.wordHere() == Word.END ? takeEnd() : takeStep(beginStep())) && reader.takeSign(';');
             }
             if (well && depth > 0) {
                 well = reader.fail(Reader.MISPLACED);
@@ -2049,21 +2074,25 @@ public final class LastPebble {
             }
             reader.takeWord(Word.END);
             depth--;
-            days.addEnd(beginnings[depth]);
-            return reader.takeSign(';');
+            days.appendEnd(beginnings[depth]);
+            return true;
         }
 
-        private boolean takeStep() {
+        /** What word tells what the step does, NONE if it is a fault. */
+        private int beginStep() {
             int word = reader.wordHere();
             boolean block = word == Word.WHEN || word == Word.LOOP;
             if (!block && !isPlain(word)) {
-                return reader.fail(Reader.MISPLACED);
+                reader.fail(Reader.MISPLACED);
+                return NONE;
             }
             if (days.steps >= Days.STEPS) {
-                return reader.fail(Reader.ONE_MORE);
+                reader.fail(Reader.ONE_MORE);
+                return NONE;
             }
             if (block && depth >= DEEPEST) {
-                return reader.fail(Reader.TOO_DEEP);
+                reader.fail(Reader.TOO_DEEP);
+                return NONE;
             }
             reader.takeWord(word);
             days.steps++;
@@ -2071,29 +2100,42 @@ public final class LastPebble {
                 beginnings[depth] = days.length;
                 depth++;
             }
-            return takeRest(word) && reader.takeSign(';');
+            return word == Word.WHEN ? beginTest() : word;
+        }
+
+        private int beginTest() {
+            int word = reader.wordHere();
+            if (word != Word.LEADS && word != Word.LAST && word != Word.FREE) {
+                reader.fail(Reader.MISPLACED);
+                return NONE;
+            }
+            reader.takeWord(word);
+            return word;
         }
 
         private static boolean isPlain(int word) {
             return word >= Word.GO && word <= Word.WAVE || word == Word.TIDE || word == Word.STOP;
         }
 
-        private boolean takeRest(int word) {
+        private boolean takeStep(int word) {
             switch (word) {
+                case NONE: return false;
                 case Word.GO: return takeGo();
                 case Word.SET: return takeOnFind(Word.SET);
                 case Word.WAIT: return takeWait();
                 case Word.LIFT: return takeOnFind(Word.LIFT);
                 case Word.GULL: return takeOnlyNumber(Word.GULL, 0, SIXTEENTHS);
                 case Word.WAVE: return takeOnlyNumber(Word.WAVE, 0, CELLS_MOST);
-                case Word.WHEN: return takeTest();
                 case Word.LOOP: return takeOnlyNumber(Word.LOOP, 1, LOOPS_MOST);
+                case Word.LEADS: return takeLeads();
+                case Word.LAST: return takeOnFind(Word.LAST);
+                case Word.FREE: return takeFree();
                 default: return add(word, 0, 0, 0);
             }
         }
 
         private boolean add(int word, int a, int b, int c) {
-            days.add(word, a, b, c);
+            days.append(word, a, b, c);
             return true;
         }
 
@@ -2129,18 +2171,7 @@ public final class LastPebble {
             return number != NONE && add(word, number, 0, 0);
         }
 
-        private boolean takeTest() {
-            int word = reader.wordHere();
-            if (word != Word.LEADS && word != Word.LAST && word != Word.FREE) {
-                return reader.fail(Reader.MISPLACED);
-            }
-            reader.takeWord(word);
-            if (word == Word.LEADS) {
-                return takeLeads();
-            }
-            if (word == Word.LAST) {
-                return takeOnFind(Word.LAST);
-            }
+        private boolean takeFree() {
             int find = reader.takeFind(beach);
             return find != NONE && add(Word.FREE, 0, find, 0);
         }
