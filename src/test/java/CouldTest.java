@@ -82,6 +82,14 @@ public final class CouldTest {
         row(round("30", "3", "find x at 5 worth 0;"), "of no worth", 0);
         row(round("30", "2", "find p at 6 worth 1;find q at 6 worth 2;find r at 6 worth 2;find s at 6 worth 3;"),
                 "first row", 5, 1, 3);
+        row(round("5", "2", "find p at 8 worth 2;find q at 3 worth 2;find r at 1 worth 2;find s at 9 worth 2;"),
+                "right or left", 4, 0, 3);
+        row(round("4", "2", "find p at 9 worth 2;find q at 3 worth 2;find r at 1 worth 2;find s at 8 worth 2;"),
+                "left or right", 4, 1, 2);
+        row(round("3", "3", "find p at 5 worth 2;find q at 7 worth 2;find r at 3 worth 2;find s at 2 worth 2;"
+                + "find t at 8 worth 2;"), "of one beginning", 6, 0, 1, 4);
+        row(round("3", "3", "find p at 5 worth 2;find q at 8 worth 2;find r at 3 worth 2;find s at 2 worth 2;"
+                + "find t at 7 worth 2;"), "of one beginning, turned", 6, 0, 2, 3);
     }
 
     private static void bestLimits() {
@@ -128,6 +136,10 @@ public final class CouldTest {
             Check.told(x, "lateness(0, " + i + ")", x.lateness(0, i), due[i]);
         }
         Check.told(x, "lateness(0, 240)", x.lateness(0, 240), 57);
+        LastPebble more = round("4", "2", "find x at 8 worth 4;find y at 1 worth 7;find z at 19 worth 50;");
+        Check.told(more, "lateness(0, 0)", more.lateness(0, 0), 0);
+        Check.told(more, "lateness(0, 6)", more.lateness(0, 6), 4);
+        Check.told(more, "lateness(0, 10)", more.lateness(0, 10), 47);
         Check.told(x, "lateness(1, 240)", x.lateness(1, 240), 0);
         Check.refused(x, "lateness(0, 241)", x.lateness(0, 241), 1);
         Check.refused(x, "lateness(0, -1)", x.lateness(0, -1), 1);
@@ -166,6 +178,7 @@ public final class CouldTest {
         Check.told(x, "boyAt(8, 0)", x.boyAt(8, 0), 12);
         Check.told(x, "boyAt(16, 0)", x.boyAt(16, 0), 19);
         Check.refused(x, "boyAt(40, 1)", x.boyAt(40, 1), 6);
+        Check.told(x, "boys(40)", x.boys(40), 1);
         Check.refused(x, "boys(-1)", x.boys(-1), 1);
         Check.refused(x, "boys(41)", x.boys(41), 1);
         Check.refused(x, "boyAt(-1, 0)", x.boyAt(-1, 0), 1);

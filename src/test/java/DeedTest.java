@@ -33,7 +33,9 @@ public final class DeedTest {
         Check.refused(x, "go(-1, 0)", x.go(-1, 0), 1);
         Check.refused(x, "go(0, -1)", x.go(0, -1), 1);
         Check.refused(x, "go(0, 20)", x.go(0, 20), 1);
-        Check.told(x, "go(0, 19)", x.go(0, 19), 19);
+        Check.told(x, "go(0, 2)", x.go(0, 2), 2);
+        Check.told(x, "go(0, 0)", x.go(0, 0), 4);
+        Check.told(x, "go(0, 19)", x.go(0, 19), 23);
     }
 
     private static void waiting() {

@@ -17,6 +17,7 @@ public final class LiveTest {
         means();
         marks();
         marksKeepAll();
+        marksKeepDays();
         Check.end();
     }
 
@@ -114,6 +115,9 @@ public final class LiveTest {
         Check.due("clock of a", x.finder(0, 3), 10);
         lived(x, 0, 8, 2, 0, 0, 0, 0);
         Check.due("clock of a", x.finder(0, 3), 13);
+        Check.days(x, "go a to 0;wave 5;");
+        lived(x, 0, 2, 0, 0, 0, 0, 0);
+        Check.due("cell of a", x.finder(0, 0), 0);
         LastPebble y = with("go a to 4;set a on x;tide;go a to 4;set a on x;tide;", 6);
         lived(y, 0, 6, 0, 0, 0, 2, 0);
         Check.due("kept", y.finder(0, 4), 20);
@@ -208,7 +212,10 @@ public final class LiveTest {
                 }
             }
         }
-        return new int[] {carried, on[0], on[1], on[2]};
+        int[] told = new int[on.length + 1];
+        told[0] = carried;
+        System.arraycopy(on, 0, told, 1, on.length);
+        return told;
     }
 
     private static void gulls() {
@@ -230,6 +237,13 @@ public final class LiveTest {
         Check.refused(one, "live(-1)", one.live(-1), 1);
         Check.refused(one, "live(10000)", one.live(10000), 1);
         lived(one, 9999, 10, 0, 0, 0, 0, 0);
+        LastPebble two = Check.on("beach 9 tide 9;finder a at 0 pace 1 pebbles 0;find x at 0 worth 3;"
+                + "find y at 0 worth 3;pebble of a on x at 0;pebble of a on y at 0;");
+        Check.days(two, "loop 3;gull 16;end;");
+        int[] due = gullsBySeed(5, 16, 3, new int[] {1, 1});
+        lived(two, 5, 4, 0, due[0], 0, 0, 0);
+        Check.due("on the first of two", two.find(0, 2), due[1]);
+        Check.due("on the second of two", two.find(1, 2), due[2]);
         LastPebble gone = Check.on(BEACH + "pebble of a on x at 0;");
         Check.days(gone, "loop 9;gull 16;end;");
         gone.tide();
@@ -308,6 +322,31 @@ public final class LiveTest {
         }
         Check.refused(x, "back()", x.back(), 6);
         Check.due("clock", x.finder(0, 3), 0);
+    }
+
+    /** Days of all kinds are the same ones again when they come back from a mark. */
+    private static void marksKeepDays() {
+        LastPebble x = with("loop 3;wait a 2;when leads b<5;go b to 4;end;when last b on x;wait b 1;end;end;"
+                + "when free x;set b on x;end;stop;wait a 9;", 10);
+        x.mark();
+        Check.days(x, "wave 1;wave 2;wave 3;wave 4;wave 5;wave 6;wave 7;wave 8;wave 9;wave 9;wave 9;wave 9;wave 9;");
+        lived(x, 0, 13, 0, 0, 0, 0, 0);
+        x.back();
+        lived(x, 0, 16, 0, 0, 0, 0, 0);
+        int[] due = {6, 12, 4, 1};
+        int[] got = {x.finder(0, 3), x.finder(1, 3), x.finder(1, 0), x.find(0, 2)};
+        for (int i = 0; i < due.length; i++) {
+            Check.due("lived answer " + i, got[i], due[i]);
+        }
+        lived(x, 0, 15, 0, 0, 0, 0, 0);
+        Check.due("clock of a", x.finder(0, 3), 12);
+        Check.due("clock of b", x.finder(1, 3), 15);
+        LastPebble y = with("wait a 1;", 1);
+        Check.beach(y, BEACH);
+        y.mark();
+        Check.days(y, "wait a 2;");
+        y.back();
+        Check.refused(y, "live(0)", y.live(0), 6);
     }
 
     private static void marksKeepAll() {

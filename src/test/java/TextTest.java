@@ -16,6 +16,8 @@ public final class TextTest {
         tokenFaults();
         pebblesStand();
         told();
+        cutTexts();
+        oneBehindAnother();
         Check.end();
     }
 
@@ -115,7 +117,79 @@ public final class TextTest {
         Check.beachFault("beach 9 tide 9 ;,", 1, 16);
     }
 
+    private static void cutTexts() {
+        LastPebble x = new LastPebble();
+        Check.feed(x, "beach 9 tide 99;");
+        Check.refused(x, "beach(14)", x.beach(14), 9);
+        Check.due("fault(0)", x.fault(0), 2);
+        Check.due("fault(1)", x.fault(1), 14);
+        Check.feed(x, "beach 9 tide 9; finders");
+        Check.refused(x, "beach(22)", x.beach(22), 9);
+        Check.due("fault(0)", x.fault(0), 2);
+        Check.due("fault(1)", x.fault(1), 22);
+        Check.feed(x, "beach 9 tide 9; ;;;;");
+        Check.told(x, "beach(16)", x.beach(16), 0);
+        Check.due("fault(0)", x.fault(0), 0);
+        Check.due("fault(1)", x.fault(1), -1);
+        for (int i = 0; i < 45; i++) {
+            x.feed(0x3b3b3b3b, 0x3b3b3b3b, 0x3b3b3b3b, 0x3b3b3b3b, 0x3b3b3b3b);
+        }
+        Check.refused(x, "beach(900)", x.beach(900), 9);
+        Check.due("fault(0)", x.fault(0), 2);
+        Check.due("fault(1)", x.fault(1), 0);
+    }
+
+    /** What stood in a larger beach must not be met in a smaller one behind it. */
+    private static void oneBehindAnother() {
+        StringBuilder large = new StringBuilder("beach 40 tide 240 moon 9;duel none;");
+        for (char c = 'a'; c < 'g'; c++) {
+            large.append("finder ").append(c).append(" at 1 pace 1 pebbles 9;");
+        }
+        for (char c = 'p'; c < 'x'; c++) {
+            large.append("find ").append(c).append(" at 1 worth 9;pebble of a on ").append(c).append(" at 9;");
+        }
+        LastPebble x = Check.on(large.toString());
+        for (int i = 0; i < 2; i++) {
+            x.pass(0, 100);
+            x.set(0, 0);
+            x.tide();
+            x.dawn();
+            x.pass(0, 100);
+            x.pass(1, 100);
+            x.go(0, 1);
+            x.set(0, 0);
+            x.set(1, 0);
+            Check.told(x, "beach", Check.beach(x, large.toString()), 8);
+        }
+        x.pass(0, 100);
+        x.set(0, 0);
+        Check.told(x, "beach", Check.beach(x, "beach 3 tide 9;finder u at 2 pace 1 pebbles 1;find v at 1 worth 2;"), 1);
+        int[] told = {3, 1, 1, 9, 0, 1, 0, 1, 0};
+        for (int what = 0; what < told.length; what++) {
+            Check.told(x, "told(" + what + ")", x.told(what), told[what]);
+        }
+        int[] finder = {2, 1, 1, 0, 0};
+        for (int what = 0; what < finder.length; what++) {
+            Check.told(x, "finder(0, " + what + ")", x.finder(0, what), finder[what]);
+        }
+        int[] sets = {x.duels(), x.needs(0), x.rivals(0, 1), x.safe(0), x.seen(0, 40), x.alone(), x.open(), x.boys(0),
+            x.crowd(40), x.strewn(0), x.best(0), x.gull(0, 1), x.wave(40), x.leads(0), x.threat(0), x.latest()};
+        int[] due = {0, 1, -1, 0, 1, 0, 2, 1, 1, 0, 2, -1, 0, 0, 1, -1};
+        for (int i = 0; i < sets.length; i++) {
+            Check.due("answer " + i + " on the smaller beach", sets[i], due[i]);
+        }
+        Check.told(x, "tide()", x.tide(), 1);
+        Check.told(x, "dawn()", x.dawn(), 1);
+        Check.told(x, "told(7)", x.told(7), 1);
+        Check.told(x, "beach", Check.beach(x, "beach 2 tide 3;"), 0);
+        int[] last = {2, 0, 0, 3, 0, 1, 0, 0, 0};
+        for (int what = 0; what < last.length; what++) {
+            Check.told(x, "told(" + what + ")", x.told(what), last[what]);
+        }
+    }
+
     private static void headFaults() {
+        Check.beachFault("beach 9 tide 9<", 2, 14);
         Check.beachFault("", 2, 0);
         Check.beachFault(" \n ", 2, 3);
         Check.beachFault("beach", 2, 5);

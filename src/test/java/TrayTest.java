@@ -65,9 +65,12 @@ public final class TrayTest {
         Check.refused(x, "read(-1, 0)", x.read(-1, 0), 1);
         Check.refused(x, "read(4, 0)", x.read(4, 0), 1);
         Check.granted(x, "write(0, 3, 7)", x.write(0, 3, 7));
+        Check.granted(x, "write(0, 0, 7)", x.write(0, 0, 7));
         Check.granted(x, "tray(0, 1, 4)", x.tray(0, 1, 4));
+        Check.told(x, "read(0, 0)", x.read(0, 0), 0);
         Check.told(x, "read(0, 3)", x.read(0, 3), 0);
         Check.refused(x, "read(0, 4)", x.read(0, 4), 3);
+        Check.told(x, "read(0, 0) behind a refused call", x.read(0, 0), 0);
         Check.granted(x, "tray(3, 3, 0)", x.tray(3, 3, 0));
         Check.refused(x, "read(3, 0)", x.read(3, 0), 3);
     }

@@ -24,6 +24,7 @@ public final class WhoseTest {
         parts();
         crowds();
         lying();
+        firsts();
         nobody();
         Check.end();
     }
@@ -304,6 +305,33 @@ public final class WhoseTest {
         Check.told(x, "lies(1, 1)", x.lies(1, 1), 1);
         Check.refused(x, "lies(3, 0)", x.lies(3, 0), 1);
         Check.refused(x, "lies(-1, 0)", x.lies(-1, 0), 1);
+    }
+
+    /** What is first of all, and last of six. */
+    private static void firsts() {
+        StringBuilder text = new StringBuilder("beach 9 tide 9;duel last;find x at 0 worth 7;find y at 1 worth 5;");
+        for (char c = 'a'; c < 'g'; c++) {
+            text.append("finder ").append(c).append(" at 0 pace 1 pebbles 1;");
+        }
+        LastPebble x = Check.on(text + "pebble of a on x at 9;pebble of f on x at 9;pebble of a on y at 9;");
+        Check.told(x, "duels()", x.duels(), 1);
+        Check.told(x, "whose(0)", x.whose(0), 32);
+        Check.told(x, "rivals(5, 0)", x.rivals(5, 0), 1);
+        Check.told(x, "alone()", x.alone(), 2);
+        int[] ranked = {5, 0, 1, 2, 3, 4};
+        for (int k = 0; k < 6; k++) {
+            Check.told(x, "ranked(" + k + ")", x.ranked(k), ranked[k]);
+        }
+        Check.told(x, "behind(0)", x.behind(0), 2);
+        Check.told(x, "both(0, 1, 0)", x.both(0, 1, 0), 1);
+        Check.told(x, "crowd(1)", x.crowd(1), 6);
+        Check.told(x, "safe(0)", x.safe(0), 2);
+        Check.told(x, "needs(0)", x.needs(0), 1);
+        x.wave(1);
+        Check.told(x, "ranked(0)", x.ranked(0), 0);
+        Check.told(x, "leader()", x.leader(), 0);
+        x.gull(1, 0);
+        Check.told(x, "safe(0)", x.safe(0), 1);
     }
 
     private static void nobody() {
