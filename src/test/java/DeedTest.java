@@ -112,9 +112,14 @@ public final class DeedTest {
         Check.told(x, "lift(0, 0)", x.lift(0, 0), 7);
         Check.due("first of those left", x.pebble(0, 1, 0), 0);
         Check.due("second of those left", x.pebble(0, 2, 0), 1);
+        int[] minutes = {2, 7, 7, 9};
+        for (int k = 0; k < 4; k++) {
+            Check.due("minute of pebble " + k + " left", x.pebble(0, k, 1), minutes[k]);
+        }
         Check.due("pebbles it has", x.finder(0, 2), 4);
         Check.told(x, "lift(0, 0)", x.lift(0, 0), 7);
         Check.told(x, "lift(0, 0)", x.lift(0, 0), 2);
+        Check.due("minute of the first pebble left", x.pebble(0, 0, 1), 7);
         Check.refused(x, "lift(0, 0)", x.lift(0, 0), 6);
         Check.due("left", x.find(0, 2), 2);
         Check.refused(x, "lift(1, 0)", x.lift(1, 0), 7);

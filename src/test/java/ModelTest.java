@@ -232,6 +232,10 @@ public final class ModelTest {
         }
         int finders = random.nextInt(9) == 0 ? 0 : 1 + random.nextInt(strewn ? 2 : 6);
         int finds = random.nextInt(9) == 0 ? 0 : 1 + random.nextInt(strewn ? 2 : 8);
+        if (!strewn && random.nextInt(4) == 0) {
+            finders = 6;
+            finds = 8;
+        }
         for (int i = 0; i < finders; i++) {
             int pebbles = strewn ? 20 : random.nextInt(random.nextBoolean() ? 4 : 21);
             int pace = 1 + random.nextInt(random.nextBoolean() ? 2 : 9);
