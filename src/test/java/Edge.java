@@ -1,3 +1,4 @@
+import java.util.List;
 import java.util.function.Supplier;
 import java.util.function.ToLongFunction;
 
@@ -11,6 +12,10 @@ final class Edge {
             + "finder b at 10 pace 2 pebbles 2;finder c at 10 pace 1 pebbles 0;find x at 4 worth 10;"
             + "find y at 10 worth 7;find z at 15 worth 20;pebble of b on y at 5;pebble of a on y at 5;"
             + "pebble of a on z at 28;";
+    /** What no NAME may be. */
+    static final List<String> WORDS = List.of("beach", "tide", "moon", "finder", "at", "pace", "pebbles", "find",
+            "worth", "pebble", "of", "on", "duel", "none", "first", "last", "share", "to", "go", "set", "wait", "lift",
+            "gull", "wave", "when", "leads", "free", "loop", "end", "stop");
     static final String DAYS = "wait a 1;gull 9;wave 5;set a on x;";
 
     /** A call with one number left free. */

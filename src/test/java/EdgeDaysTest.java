@@ -2,9 +2,6 @@ import java.util.List;
 
 /** The edges of promise 11: the DAYS' text and its FAULTS. */
 public final class EdgeDaysTest {
-    private static final List<String> WORDS = List.of("beach", "tide", "moon", "finder", "at", "pace", "pebbles",
-            "find", "worth", "pebble", "of", "on", "duel", "none", "first", "last", "share", "to", "go", "set", "wait",
-            "lift", "gull", "wave", "when", "leads", "free", "loop", "end", "stop");
     private static final String FOURTH = "loop 1;loop 1;loop 1;";
 
     public static void main(String[] args) {
@@ -158,7 +155,7 @@ public final class EdgeDaysTest {
 
     private static void stepsBeginSo() {
         List<String> steps = List.of("go", "set", "wait", "lift", "gull", "wave", "tide", "when", "loop", "stop");
-        for (String word : WORDS) {
+        for (String word : Edge.WORDS) {
             if (steps.contains(word)) {
                 faulty(word + " <", 2, word.length() + 1);
                 faulty(word, 2, word.length());
@@ -171,7 +168,7 @@ public final class EdgeDaysTest {
     }
 
     private static void testsBeginSo() {
-        for (String word : WORDS) {
+        for (String word : Edge.WORDS) {
             if (!List.of("leads", "last", "free").contains(word)) {
                 faulty("when " + word, 2, 5);
             }
@@ -218,7 +215,7 @@ public final class EdgeDaysTest {
     }
 
     private static void namesAreNoneOfTheWords() {
-        for (String word : WORDS) {
+        for (String word : Edge.WORDS) {
             faulty("go " + word + " to 1;", 2, 3);
             faulty("set a on " + word + ";", 2, 9);
         }

@@ -1,7 +1,7 @@
 /** The edges of promises 17 to 24: what is done. */
 public final class EdgeDeedTest {
-    private static final String SHORT = "beach 40 tide 9;finder a at 0 pace 1 pebbles 2;finder b at 39 pace 9 pebbles 1;"
-            + "find x at 0 worth 5;find y at 0 worth 6;find z at 39 worth 7;";
+    private static final String SHORT = "beach 40 tide 9;finder a at 0 pace 1 pebbles 2;"
+            + "finder b at 39 pace 9 pebbles 1;find x at 0 worth 5;find y at 0 worth 6;find z at 39 worth 7;";
 
     public static void main(String[] args) {
         findersAndFindsThatThereAre();

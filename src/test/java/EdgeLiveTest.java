@@ -1,7 +1,7 @@
 /** The edges of promises 62 to 66: living the DAYS, the mean, MARKS. */
 public final class EdgeLiveTest {
-    private static final String HEAD = "beach 20 tide 30;finder a at 4 pace 1 pebbles 3;finder b at 10 pace 1 pebbles 0;"
-            + "find x at 4 worth 10;find y at 10 worth 7;";
+    private static final String HEAD = "beach 20 tide 30;finder a at 4 pace 1 pebbles 3;"
+            + "finder b at 10 pace 1 pebbles 0;find x at 4 worth 10;find y at 10 worth 7;";
 
     public static void main(String[] args) {
         liveBySeeds();

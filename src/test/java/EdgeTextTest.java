@@ -4,9 +4,6 @@ import java.util.function.ToIntFunction;
 /** The edges of promises 9 to 16: the tape, TOKENS, the BEACH's text and its FAULTS, what is told of it. */
 public final class EdgeTextTest {
     private static final String HEAD = "beach 9 tide 9;";
-    private static final List<String> WORDS = List.of("beach", "tide", "moon", "finder", "at", "pace", "pebbles",
-            "find", "worth", "pebble", "of", "on", "duel", "none", "first", "last", "share", "to", "go", "set", "wait",
-            "lift", "gull", "wave", "when", "leads", "free", "loop", "end", "stop");
 
     public static void main(String[] args) {
         tapeHasNineHundredBytes();
@@ -256,13 +253,13 @@ public final class EdgeTextTest {
 
     private static void namesAreNoneOfTheWords() {
         String told = HEAD + "finder a at 0 pace 1 pebbles 1;find x at 0 worth 1;";
-        for (String word : WORDS) {
+        for (String word : Edge.WORDS) {
             Check.beachFault(HEAD + "find " + word + " at 0 worth 1;", 2, 20);
             Check.beachFault(HEAD + "finder " + word + " at 0 pace 1 pebbles 1;", 2, 22);
             Check.beachFault(told + "pebble of " + word, 2, told.length() + 10);
             Check.beachFault(told + "pebble of a on " + word, 2, told.length() + 15);
             for (String near : new String[] {word + "s", word.substring(0, word.length() - 1), "s" + word}) {
-                if (!WORDS.contains(near)) {
+                if (!Edge.WORDS.contains(near)) {
                     Check.due(near, Check.on(HEAD + "find " + near + " at 0 worth 1;").told(2), 1);
                 }
             }
@@ -374,7 +371,7 @@ public final class EdgeTextTest {
             Check.beachFault(one + "duel 7", 5, one.length());
             Check.beachFault(HEAD + "find x at 0 worth 1;duel " + whos[i] + "; duel", 5, 15 + 20 + one.length() - 14);
         }
-        for (String word : WORDS) {
+        for (String word : Edge.WORDS) {
             if (!List.of(whos).contains(word)) {
                 Check.beachFault(HEAD + "duel " + word + ";", 2, 20);
             }
@@ -388,7 +385,7 @@ public final class EdgeTextTest {
         Check.beachFault(HEAD + "moon 3;", 2, 15);
         Check.beachFault(HEAD + HEAD, 2, 15);
         Check.beachFault(HEAD + ";", 2, 15);
-        for (String word : WORDS) {
+        for (String word : Edge.WORDS) {
             if (!List.of("finder", "find", "pebble", "duel").contains(word)) {
                 Check.beachFault(HEAD + word, 2, 15);
             }
